@@ -491,6 +491,12 @@ public final class ReturnGrades {
         return index >= 0 && index < length ? index : 0;
     }
 
+    private static void copyNumbers(int[] from, int[] to) {
+        for (int i = 0; i < from.length && i < to.length; i++) {
+            to[i] = from[i];
+        }
+    }
+
     private static final class Product {
         int cost = 100;
         int vendor;
@@ -520,7 +526,7 @@ public final class ReturnGrades {
         }
 
         void copyFrom(Vendor other) {
-            System.arraycopy(other.agreements, 0, agreements, 0, REASONS);
+            copyNumbers(other.agreements, agreements);
             limit = other.limit;
             paidInPeriod = other.paidInPeriod;
             paidForClaims = other.paidForClaims;
@@ -596,7 +602,7 @@ public final class ReturnGrades {
         }
 
         void copyFrom(Unit other) {
-            System.arraycopy(other.scores, 0, scores, 0, TESTS);
+            copyNumbers(other.scores, scores);
             product = other.product;
             reason = other.reason;
             place = other.place;
@@ -642,9 +648,7 @@ public final class ReturnGrades {
             for (int i = 0; i < unitCount && i < units.length && i < other.units.length; i++) {
                 units[i].copyFrom(other.units[i]);
             }
-            for (int i = 0; i < settings.length && i < other.settings.length; i++) {
-                settings[i] = other.settings[i];
-            }
+            copyNumbers(other.settings, settings);
             day = other.day;
             periods = other.periods;
         }

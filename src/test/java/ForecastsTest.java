@@ -202,6 +202,11 @@ public final class ForecastsTest {
         desk.product(0, 1, 0);
         desk.product(1, 1, 0);
         checks.due("31: above 1, by the costs now", desk.backShare(), 517.0 / 4.0);
+
+        ReturnGrades one = Checks.deskWith("p0r0:9999");
+        one.send(0, 2);
+        one.product(0, 1, 0);
+        checks.due("31: one unit with the cost 1", one.backShare(), 90.0);
     }
 
     /** The hash again, from the answers of the other calls. */

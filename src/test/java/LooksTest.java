@@ -111,6 +111,13 @@ public final class LooksTest {
         checks.refused("21: place -1", desk, ARGUMENT, () -> desk.inWorkshop(-1));
         checks.refused("21: place 20", desk, ARGUMENT, () -> desk.inWorkshop(20));
 
+        ReturnGrades costly = Checks.deskWith("p0r0:5555;p1r0:4444");
+        costly.product(0, 9999, 0);
+        costly.product(1, 1, 0);
+        costly.send(0, 1);
+        costly.send(1, 1);
+        checks.due("21: the grade comes before any cost", Checks.workshop(costly), "1.0.");
+
         ReturnGrades full = new ReturnGrades();
         for (int i = 0; i < 20; i++) {
             full.receive(0, 0);
@@ -140,8 +147,26 @@ public final class LooksTest {
         desk.send(2, 1);
         checks.due("22: wherever they are", Checks.waiting(desk), "4.1.2.0.3.");
         checks.due("22: the place 19", desk.waiting(19), NONE);
+        waitingForNothing();
         checks.refused("22: place -1", desk, ARGUMENT, () -> desk.waiting(-1));
         checks.refused("22: place 20", desk, ARGUMENT, () -> desk.waiting(20));
+    }
+
+    /** A claim of 0 for the last unit that there can be waits, as its vendor paid more than its limit. */
+    private static void waitingForNothing() {
+        ReturnGrades desk = new ReturnGrades();
+        for (int i = 0; i < 18; i++) {
+            desk.receive(0, 0);
+        }
+        Checks.type(desk, "p0r0:1111;p0r0:9999");
+        desk.receiveAll();
+        desk.claim(18);
+        desk.limit(0, 0);
+        desk.claim(19);
+        checks.due("22: a claim of 0 for unit 19", desk.waiting(0), 19);
+        checks.due("22: no other claim", desk.waiting(1), NONE);
+        desk.closePeriod();
+        checks.due("22: it is settled", desk.waiting(0), NONE);
     }
 
     private static void count() {
@@ -158,8 +183,29 @@ public final class LooksTest {
         for (int what = 0; what <= 13; what++) {
             checks.due("23: count(" + what + ")", desk.count(what), due[what]);
         }
+        countPlaces();
         checks.refused("23: what -1", desk, ARGUMENT, () -> desk.count(-1));
         checks.refused("23: what 14", desk, ARGUMENT, () -> desk.count(14));
+    }
+
+    /** One unit in stock, two in the workshop, three sold, four scrapped, five sent back. */
+    private static void countPlaces() {
+        ReturnGrades desk = new ReturnGrades();
+        for (int i = 0; i < 15; i++) {
+            Checks.type(desk, i < 10 ? "p0r0:5555" : "p1r0");
+            desk.receiveAll();
+        }
+        desk.recall(1, true);
+        int[] routes = {0, 1, 1, 2, 2, 2, 3, 3, 3, 3, 4, 4, 4, 4, 4};
+        for (int unit = 1; unit < routes.length; unit++) {
+            desk.send(unit, routes[unit]);
+        }
+        for (int place = 0; place <= 4; place++) {
+            checks.due("23: units in the place " + place, desk.count(1 + place), 1 + place);
+        }
+        checks.due("19: units of product 0", desk.productOf(0, 3), 10);
+        checks.due("19: those here", desk.productOf(0, 4), 3);
+        checks.due("19: those sold", desk.productOf(0, 5), 3);
     }
 
     private static void setting() {

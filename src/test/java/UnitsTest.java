@@ -17,6 +17,7 @@ public final class UnitsTest {
         sendToWorkshop();
         pass();
         passInOrder();
+        passTakesGradeZero();
         passLeavesHeldUnits();
         passToTheLastDay();
         checks.end();
@@ -108,7 +109,9 @@ public final class UnitsTest {
             checks.due("8: the grade of unit " + number, desk.unit(number, 6), grades[number]);
         }
         checks.due("8: with a score 0", desk.test(0, 3, 0), 2);
-        checks.due("8: with three scores 0", desk.test(5, 3, 0), 3);
+        checks.due("8: with a score 0 and the sum 8", desk.test(5, 3, 0), 3);
+        checks.due("8: with a score 0 and the sum 9", desk.test(5, 2, 3), 3);
+        checks.due("8: with a score 0 and the sum 10", desk.test(5, 1, 4), 2);
         desk.set(0, 0);
         checks.due("8: a score 0 with the sum for grade 0", desk.unit(0, 6), 2);
         desk.set(0, 36);
@@ -255,6 +258,16 @@ public final class UnitsTest {
         }
         checks.due("10: five in a day", many.pass(1), 5 * 24 * 3);
         checks.due("10: the last one", many.inWorkshop(0), 5);
+    }
+
+    /** A unit that has grade 0 since a setting was changed is taken on all the same. */
+    private static void passTakesGradeZero() {
+        ReturnGrades desk = Checks.deskWith("p0r0:9991");
+        desk.send(0, 1);
+        desk.set(0, 28);
+        checks.due("10: its grade", desk.unit(0, 6), 0);
+        checks.due("10: six points", desk.pass(1), 18);
+        checks.due("10: in stock again", desk.unit(0, 7), 0);
     }
 
     private static void passLeavesHeldUnits() {
