@@ -64,7 +64,8 @@ public final class LooksTest {
         int[][] due = {{100, 0, 0, 0, 0, 0}, {300, 2, 0, 2, 1, 1}, {200, 2, 1, 1, 1, 0}, {100, 0, 1, 1, 0, 0}};
         for (int product = 0; product < due.length; product++) {
             for (int what = 0; what <= 5; what++) {
-                checks.due("19: productOf(" + product + ", " + what + ")", desk.productOf(product, what), due[product][what]);
+                int got = desk.productOf(product, what);
+                checks.due("19: productOf(" + product + ", " + what + ")", got, due[product][what]);
             }
         }
         checks.refused("19: product 6", desk, INDEX, () -> desk.productOf(6, 6));

@@ -36,7 +36,8 @@ public final class RandomRunsTest {
     /** Nine calls a step at the most, and 52 before the first: within the 512 of an object. */
     private void run() {
         for (int unit = 0; unit < 5; unit++) {
-            Checks.type(desk, "p" + below(3) + "r" + below(4) + ":" + (below(9) + 1) + (below(9) + 1) + below(10) + below(10));
+            String scores = "" + (below(9) + 1) + (below(9) + 1) + below(10) + below(10);
+            Checks.type(desk, "p" + below(3) + "r" + below(4) + ":" + scores);
             desk.receiveAll();
         }
         desk.product(below(3), below(500) + 1, below(4));

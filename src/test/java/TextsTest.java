@@ -18,6 +18,7 @@ public final class TextsTest {
         receiveAllOfALongText();
         undo();
         undoRestoresAll();
+        undoRestoresEachRow();
         checks.end();
     }
 
@@ -85,7 +86,8 @@ public final class TextsTest {
 
     /** For each beginning, every character: it is an error unless one of the listed ones. */
     private static void firstErrorByReference() {
-        String[] beginnings = {"", "p", "p0", "p0r", "p0r0", "p0r0:", "p0r0:1", "p0r0:12", "p0r0:123", "p0r0:1234", "p0r0;"};
+        String[] beginnings = {"", "p", "p0", "p0r", "p0r0", "p0r0:", "p0r0:1", "p0r0:12", "p0r0:123", "p0r0:1234",
+            "p0r0;"};
         String digits = "0123456789";
         String[] allowed = {"p", "012345", "r", "0123", ":;", digits, digits, digits, digits, ";", "p"};
         for (int i = 0; i < beginnings.length; i++) {
@@ -115,8 +117,8 @@ public final class TextsTest {
     }
 
     private static void receiveAllIsRefused() {
-        String[] texts = {"", "p", "p0", "p0r", "p0r0:", "p0r0:123", "p0r0;", "p0r0:1234;", "x", "p0r0x", "p0r0;p6r0", "p0r0:1234p",
-            "p0r0;p0r4;p0r0"};
+        String[] texts = {"", "p", "p0", "p0r", "p0r0:", "p0r0:123", "p0r0;", "p0r0:1234;", "x", "p0r0x",
+            "p0r0;p6r0", "p0r0:1234p", "p0r0;p0r4;p0r0"};
         for (String text : texts) {
             ReturnGrades desk = new ReturnGrades();
             Checks.type(desk, text);
@@ -173,11 +175,41 @@ public final class TextsTest {
 
     /** Five changes each on a new desk with one saved state; undone one by one, each digest comes back. */
     private static void undoRestoresAll() {
-        undoAll("units", d -> d.send(0, 1), d -> d.pass(2), d -> d.test(0, 0, 1), d -> d.send(0, 2), d -> d.receive(5, 3));
-        undoAll("claims", d -> d.limit(0, 60), d -> d.claim(0), d -> d.claim(1), d -> d.closePeriod(), d -> d.send(1, 3));
+        undoAll("units", d -> d.send(0, 1), d -> d.pass(2), d -> d.test(0, 0, 1), d -> d.send(0, 2),
+            d -> d.receive(5, 3));
+        undoAll("claims", d -> d.limit(0, 60), d -> d.claim(0), d -> d.claim(1), d -> d.closePeriod(),
+            d -> d.send(1, 3));
         undoAll("vendors", d -> d.product(2, 77, 3), d -> d.agree(3, 2, 9), d -> d.recall(2, true), d -> d.send(2, 4),
             d -> d.claim(0));
         undoAll("settings", d -> d.set(0, 1), d -> d.set(1, 2), d -> d.set(2, 3), d -> d.set(3, 4), d -> d.set(4, 5));
+    }
+
+    /** Each product, vendor and unit by itself, the first and the last ones too. */
+    private static void undoRestoresEachRow() {
+        ReturnGrades desk = new ReturnGrades();
+        for (int unit = 0; unit < 20; unit++) {
+            desk.receive(0, 0);
+        }
+        for (int product = 0; product < 6; product++) {
+            desk.product(product, 5, 1);
+            desk.undo();
+            checks.due("17: the cost of product " + product, desk.productOf(product, 0), 100);
+            checks.due("17: the vendor of product " + product, desk.productOf(product, 1), 0);
+        }
+        for (int vendor = 0; vendor < 4; vendor++) {
+            for (int reason = 0; reason < 4; reason++) {
+                desk.agree(vendor, reason, 5);
+                desk.undo();
+                checks.due("17: the agreement " + vendor + ", " + reason, desk.vendor(vendor, 6 + reason), 50);
+            }
+        }
+        for (int unit = 0; unit < 20; unit++) {
+            for (int test = 0; test < 4; test++) {
+                desk.test(unit, test, 5);
+                desk.undo();
+                checks.due("17: the score " + unit + ", " + test, desk.unit(unit, 2 + test), NONE);
+            }
+        }
     }
 
     @SafeVarargs
