@@ -39,6 +39,10 @@ public final class ReturnGrades {
     private static final int WORKSHOP_ORDER = 0;
     private static final int WORKSHOP_ORDER_NOT_HELD = 1;
     private static final int CLAIM_ORDER = 2;
+    /** No grade, cost or amount that there can be leads to a rank as great as this. */
+    private static final int ABOVE_ALL_RANKS = 1000000000;
+
+    private static final long SIGN_BIT = 1L << 63;
 
     private final Desk desk;
     /** A second desk, on which ifClosed() closes the period without changing the first. */
@@ -441,7 +445,7 @@ public final class ReturnGrades {
         }
         long fraction = (long) ((part - 1.0) * 4503599627370496.0);
         long bits = ((long) exponent << 52) | fraction;
-        return value < 0.0 ? bits | Long.MIN_VALUE : bits;
+        return value < 0.0 ? bits | SIGN_BIT : bits;
     }
 
     private static int lowestValue(int setting) {
@@ -769,7 +773,7 @@ public final class ReturnGrades {
             day++;
             int cost = 0;
             for (int i = 0; i < settings[SETTING_PER_DAY]; i++) {
-                int number = numberOfRank(nextRank(Integer.MAX_VALUE, WORKSHOP_ORDER_NOT_HELD));
+                int number = numberOfRank(nextRank(ABOVE_ALL_RANKS, WORKSHOP_ORDER_NOT_HELD));
                 if (!isIndex(number, units.length)) {
                     return cost;
                 }
@@ -816,7 +820,7 @@ public final class ReturnGrades {
                 vendors[i].paidInPeriod = 0;
             }
             int paid = 0;
-            int rank = Integer.MAX_VALUE;
+            int rank = ABOVE_ALL_RANKS;
             for (int i = 0; i < unitCount; i++) {
                 rank = nextRank(rank, CLAIM_ORDER);
                 int number = numberOfRank(rank);
@@ -831,7 +835,7 @@ public final class ReturnGrades {
 
         /** The number of the unit at a place of an order; NONE if there are not so many. */
         int numberAt(int place, int order) {
-            int rank = nextRank(Integer.MAX_VALUE, order);
+            int rank = nextRank(ABOVE_ALL_RANKS, order);
             for (int i = 0; i < place && rank != NONE; i++) {
                 rank = nextRank(rank, order);
             }
