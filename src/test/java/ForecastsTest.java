@@ -268,20 +268,31 @@ public final class ForecastsTest {
         checks.due("32: with a text", desk.digest(), dueDigest(desk, "p0r~"));
         checks.due("32: it changes nothing", desk.digest(), dueDigest(desk, "p0r~"));
 
-        ReturnGrades busy = Checks.deskWith("p0r0:1119;p1r1:5554;p1r2:1999;p1r3:1111;p2r0;p2r1:9999");
-        for (int unit = 0; unit < 4; unit++) {
-            busy.send(unit, 1);
+        String[] names = {"claims and a workshop", "a share below 0", "a share between 0 and 1"};
+        for (int steps = 0; steps < names.length; steps++) {
+            ReturnGrades busy = busyDesk(steps);
+            checks.due("32: " + names[steps], busy.digest(), dueDigest(busy, ""));
         }
-        busy.limit(0, 40);
+    }
+
+    /** With no step more there are claims and a workshop; then a day passes, and then a unit is sent back. */
+    private static ReturnGrades busyDesk(int steps) {
+        ReturnGrades desk = Checks.deskWith("p0r0:1119;p1r1:5554;p1r2:1999;p1r3:1111;p2r0;p2r1:9999");
         for (int unit = 0; unit < 4; unit++) {
-            busy.claim(unit);
+            desk.send(unit, 1);
         }
-        checks.due("32: claims and a workshop", busy.digest(), dueDigest(busy, ""));
-        busy.pass(1);
-        checks.due("32: a share below 0", busy.digest(), dueDigest(busy, ""));
-        busy.recall(2, true);
-        busy.send(4, 4);
-        checks.due("32: a share between 0 and 1", busy.digest(), dueDigest(busy, ""));
+        desk.limit(0, 40);
+        for (int unit = 0; unit < 4; unit++) {
+            desk.claim(unit);
+        }
+        if (steps > 0) {
+            desk.pass(1);
+        }
+        if (steps > 1) {
+            desk.recall(2, true);
+            desk.send(4, 4);
+        }
+        return desk;
     }
 
     /** Shares of very different sizes, below and above 0; each desk has one unit. */

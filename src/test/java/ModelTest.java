@@ -65,7 +65,7 @@ public final class ModelTest {
                 call("limit", vendor, below(300));
             }
         }
-        while (calls < CALLS - 70) {
+        while (calls < CALLS - 76) {
             if (below(model.count(0) < 10 ? 15 : 150) == 0) {
                 typeReturns();
             } else {
